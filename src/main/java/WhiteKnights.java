@@ -625,20 +625,24 @@ public final class WhiteKnights {
         }
 
         int allowed(int man, int position, int hops, int holes) {
+            int open = openTo(man, position, hops, holes);
+            int squares = 0;
+            for (int square = 0; square < MOST_SQUARES; square++) {
+                if (bit(open, square) == 1 && mayStand(moved(position, man, square), holes)) squares |= 1 << square;
+            }
+            return squares;
+        }
+
+        /** Squares to which a man may hop, if the position behind the hop may stand. */
+        int openTo(int man, int position, int hops, int holes) {
             if (man < 0 || man >= MOST_MEN) return 0;
             if (told.law == TURNS && told.colours[man] != (hops & 1)) return 0;
             int men = told.taken(position);
-            int free = grid.reached(told.kinds[man], placeOf(man, position), holes, men) & ~men;
-            return told.law == SAFE ? safeOnes(free, man, position, holes) : free;
+            return grid.reached(told.kinds[man], placeOf(man, position), holes, men) & ~men;
         }
 
-        private int safeOnes(int squares, int man, int position, int holes) {
-            int safe = 0;
-            for (int square = 0; square < MOST_SQUARES; square++) {
-                if (bit(squares, square) == 0) continue;
-                if (attackedMen(moved(position, man, square), holes) == 0) safe |= 1 << square;
-            }
-            return safe;
+        boolean mayStand(int position, int holes) {
+            return told.law != SAFE || attackedMen(position, holes) == 0;
         }
 
         int attackedMen(int position, int holes) {
@@ -774,11 +778,11 @@ public final class WhiteKnights {
             Arrays.fill(seen, 0);
             size = 0;
             exploredHoles = holes;
-            find(first, NONE, 0);
+            if (isNew(first)) add(first, NONE, 0);
             for (int i = 0; i < size && i < MOST_POSITIONS; i++) {
                 for (int man = 0; man < told.men; man++) {
                     int then = hops + depths[i];
-                    findHops(i, man, laws.allowed(man, codes[i] & SQUARES_MASK, then, holes), then + 1);
+                    addHops(i, man, laws.openTo(man, codes[i] & SQUARES_MASK, then, holes), then + 1);
                 }
             }
         }
@@ -788,19 +792,26 @@ public final class WhiteKnights {
             return told.law == TURNS ? position | (hops & 1) << TURN_BIT : position;
         }
 
-        private void findHops(int i, int man, int squares, int hops) {
-            int position = codes[i] & SQUARES_MASK;
+        private void addHops(int i, int man, int squares, int hops) {
             for (int square = 0; square < MOST_SQUARES; square++) {
                 if (bit(squares, square) == 0) continue;
-                find(codeOf(moved(position, man, square), hops), i, depths[i] + 1);
+                int position = moved(codes[i] & SQUARES_MASK, man, square);
+                int code = codeOf(position, hops);
+                // Whether a position may stand is dear to tell: it is asked but once of each.
+                if (isNew(code) && laws.mayStand(position, exploredHoles)) add(code, i, depths[i] + 1);
             }
         }
 
-        private void find(int code, int parent, int depth) {
+        /** Whether a code is seen for the first time; it is seen then. */
+        private boolean isNew(int code) {
             int word = code >> 5;
-            if (word < 0 || word >= SEEN_WORDS || size >= MOST_POSITIONS) return;
-            if (bit(seen[word], code & 31) == 1) return;
+            if (word < 0 || word >= SEEN_WORDS || bit(seen[word], code & 31) == 1) return false;
             seen[word] |= 1 << (code & 31);
+            return true;
+        }
+
+        private void add(int code, int parent, int depth) {
+            if (size >= MOST_POSITIONS) return;
             codes[size] = code;
             parents[size] = parent;
             depths[size] = depth;
