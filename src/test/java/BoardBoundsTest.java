@@ -12,6 +12,7 @@ public final class BoardBoundsTest {
 
     public static void main(String[] args) {
         BoardBoundsTest test = new BoardBoundsTest();
+        test.newObject();
         test.reaching();
         test.hopping();
         test.laws();
@@ -24,6 +25,25 @@ public final class BoardBoundsTest {
 
     private void due(String call, int got, int want) {
         check.due(call, got, want);
+    }
+
+    // "Three columns and rows, no MEN": as "board 3 3" tells, LAW FREE, no HOLES, THE TEXT and THE ROW empty
+    private void newObject() {
+        int[] counts = {3, 3, 0, 0, 0, 0, 0, 0, 0};
+        WhiteKnights x = new WhiteKnights();
+        for (int what = 0; what < counts.length; what++) due("count(" + what + ")", x.count(what), counts[what]);
+        due("back(0)", x.back(0), NOT);
+        due("back(1)", x.back(1), NOT);
+        WhiteKnights told = Check.told("board 3 3");
+        for (int square = 0; square < 9; square++) {
+            for (int kind = 0; kind < 4; kind++) {
+                due("net(" + kind + ", " + square + ")", x.net(kind, square), told.net(kind, square));
+                due("shape(" + kind + ", " + square + ")", x.shape(kind, square), told.shape(kind, square));
+            }
+        }
+        due("knight's ring", new WhiteKnights().shape(KNIGHT, 0), RING);
+        due("knight alone", new WhiteKnights().part(KNIGHT, 4), Check.bits(4));
+        Inquest.same(check, "being new", new WhiteKnights(), Check.told("board 3 3"));
     }
 
     // ---- what is reached
@@ -284,11 +304,10 @@ public final class BoardBoundsTest {
     // ---- "SHAPE of it: 0 ALONE .., 1 ROW .., 2 RING .., 3 TREE .., 4 TAIL .., 5 ANY other"
 
     private void shape(String text, int kind, int square, int squares, int shape) {
-        WhiteKnights x = Check.told(text);
         String of = "(" + kind + ", " + square + ") of " + text;
-        due("SQUARES of part" + of, Integer.bitCount(x.part(kind, square)), squares);
-        due("shape" + of, x.shape(kind, square), shape);
-        if (shape != RING) due("ring" + of, x.ring(kind, square, 0), NOT);
+        due("SQUARES of part" + of, Integer.bitCount(Check.told(text).part(kind, square)), squares);
+        due("shape" + of, Check.told(text).shape(kind, square), shape);
+        due("ring" + of, Check.told(text).ring(kind, square, 0), shape == RING ? square : NOT);
     }
 
     private void shapes() {

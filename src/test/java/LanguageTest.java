@@ -1,4 +1,6 @@
 import java.io.IOException;
+import java.lang.reflect.Field;
+import java.lang.reflect.Modifier;
 import java.nio.file.Files;
 import java.nio.file.Path;
 import java.util.regex.Matcher;
@@ -13,6 +15,7 @@ public final class LanguageTest {
     private static final int MOST_METHOD_LINES = 60;
     private static final int MOST_PARAMETERS = 7;
     private static final int MOST_CLASSES = 12;
+    private static final int MOST_FIELDS = 20;
 
     private final Check check = new Check();
     private final String code;
@@ -29,6 +32,8 @@ public final class LanguageTest {
         test.imports();
         test.staticFields();
         test.methods();
+        test.fields(WhiteKnights.class);
+        for (Class<?> inside : WhiteKnights.class.getDeclaredClasses()) test.fields(inside);
         test.check.due("classes", test.found("\\b(class|interface|enum|record) [A-Z]") <= MOST_CLASSES);
         test.check.end();
     }
@@ -49,6 +54,15 @@ public final class LanguageTest {
     private void staticFields() {
         check.due("static fields that are not final", found("(?m)^\\s+(private )?static (?!final)[^(]*[=;]"), 0);
         check.due("static arrays not written out", found("static final int\\[\\] \\w+ = (?!\\{)"), 0);
+    }
+
+    private void fields(Class<?> type) {
+        int own = 0;
+        for (Field field : type.getDeclaredFields()) {
+            if (!Modifier.isStatic(field.getModifiers())) own++;
+            else check.due(field + " is final", Modifier.isFinal(field.getModifiers()));
+        }
+        check.due(type + " has " + own + " fields", own <= MOST_FIELDS);
     }
 
     private void methods() {
